@@ -57,6 +57,12 @@ public final class CountyTest {
         SkittleGentry x = Due.with(Due.LIGHT);
         x.seed(77);
         x.ball(2, 1, 40);
+        x.setUp();
+        x.replace(0);
+        Due.feed(x, "g5;s1 7 3;s3 9 0;");
+        x.county();
+        x.ball(2, 1, 1);
+        due.is("it ROCKS", x.skittle(0, 5), 1);
         x.change(0, 8);
         x.write(0, true);
         x.keep(1);
@@ -227,6 +233,9 @@ public final class CountyTest {
         due.is("told(12)", x.told(12), 1);
         due.is("told(13)", x.told(13), 1);
         SkittleGentry light = Due.with(Due.LIGHT);
+        due.is("SAFEST, of like ones the least", light.told(8), 0);
+        due.is("by how many that FALLS", light.told(9), 120);
+        due.is("WORST, of like ones the first", light.told(6), 2016);
         light.ball(2, 1, 40);
         due.is("told(5)", light.told(5), 1);
         due.is("told(6) when all lie", light.told(6), 1);

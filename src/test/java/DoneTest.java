@@ -193,22 +193,33 @@ public final class DoneTest {
         oneDraw();
     }
 
-    /** From 0 the SEED becomes 12345 (a DRAW of 0), 1406932606 (21468): a BALL of LINE 21468 % 5 = 3. */
+    /** Looks for SEEDS by which a BALL comes up the middle, and has it meet one that just BEARS it, or not. */
     private static void oneDraw() {
-        SkittleGentry x = Due.with(Due.LIGHT);
-        long seed = 0;
-        int[] draws = new int[4];
-        int[] of = {4, 5, 3, 40};
-        for (int i = 0; i < 4; i++) {
-            seed = (seed * 1103515245L + 12345L) % 2147483648L;
-            draws[i] = (int) (seed / 65536 % of[i]);
+        int found = 0;
+        for (int seed = 0; seed < 10000 && found < 20; seed++) {
+            long at = seed;
+            int[] of = {4, 5, 3, 40};
+            int[] draws = new int[4];
+            for (int i = 0; i < 4; i++) {
+                at = (at * 1103515245L + 12345L) % 2147483648L;
+                draws[i] = (int) (at / 65536 % of[i]);
+            }
+            int pace = draws[3] + 1;
+            if (draws[0] < 2 && draws[1] == 2 && draws[2] == 1 && pace < 20) {
+                found++;
+                oneBall(seed, pace, pace, 0);
+                oneBall(seed, pace, pace + 1, 1);
+            }
         }
-        due.is("the first is a BALL", draws[0], 0);
-        due.is("of LINE", draws[1], 3);
-        int want = x.wouldFall(draws[1], draws[2], draws[3] + 1, 0);
-        due.is("drift(1)", x.drift(1), 511 & ~want);
+        due.is("SEEDS by which it comes so", found, 20);
+    }
+
+    private static void oneBall(int seed, int pace, int weight, int want) {
+        SkittleGentry x = Due.with("g0;s0 " + weight + " 0;");
+        x.seed(seed);
+        due.is("drift(1) of SEED " + seed + ", PACE " + pace, x.drift(1), want);
         due.is("one THROW", x.told(4), 1);
-        due.is("four DRAWS", x.seed(0), seed);
+        due.is("it ROCKED", x.skittle(0, 5), want);
     }
 
     private static void undoing() {

@@ -142,6 +142,9 @@ public final class TriedTest {
         SkittleGentry one = Due.with(ONE);
         due.is("to an empty PLATE", one.mend(2, 1, 40, 0), 1);
         due.is("none FALLS then", one.mend(2, 1, 40, 1), 0);
+        SkittleGentry light = Due.with(Due.LIGHT);
+        due.is("all FALL anyway: the least", light.mend(2, 1, 40, 0), 1);
+        due.is("all FALL anyway: all", light.mend(2, 1, 40, 1), 9);
         // A saint off PLATE 0 BEARS 2 less, and one on it 2 more.
         SkittleGentry saints = Due.with("g0;s0 5 0;s2 5 0;");
         due.is("a saint in front", saints.mend(2, 1, 6, 0), 1);
@@ -244,10 +247,19 @@ public final class TriedTest {
         Due.feed(x, "g0;s0 20 0;");
         x.county();
         due.is("behind county()", tried(x), 632020);
-        SkittleGentry drifts = Due.with(Due.LIGHT);
-        drifts.told(10);
-        drifts.drift(1);
-        due.is("behind drift()", drifts.told(10) == 240 ? 1 : 0, drifts.told(3) == 511 ? 1 : 0);
+        SkittleGentry drifts = Due.with(Due.NINE);
+        drifts.seed(5);
+        due.is("ahead of drift()", drifts.told(10), 287);
+        drifts.drift(3);
+        PlainModel plain = new PlainModel();
+        for (int i = 0; i < Due.NINE.length(); i++) {
+            plain.feed(Due.NINE.charAt(i));
+        }
+        plain.county();
+        plain.seed(5);
+        plain.drift(3);
+        due.is("behind drift()", drifts.told(10), plain.told(10));
+        due.holds("which is another then", drifts.told(10) != 287);
     }
 
     /** 10000 times by how many BALLS the one SKITTLE FALLS, and the first of a row by which all lie. */
