@@ -862,7 +862,7 @@ public final class SkittleGentry {
                 return NONE;
             }
             int p = PLATE_AT[row * COLUMNS + column];
-            if (!isPlate(p)) {
+            if (p < 0 || p >= PLATES) {
                 return NONE;
             }
             int s = on[p];
