@@ -7,12 +7,26 @@ final class Due {
 
     private int wrong;
     private int asked;
+    private String sentence = "";
+
+    /** The words of the document that what follows is due by: they are told with each answer that is wrong. */
+    void sentence(String words) {
+        sentence = "[" + words + "] ";
+    }
 
     void is(String call, long got, long want) {
         asked++;
         if (got != want) {
             wrong++;
-            System.out.println(call + " answered " + got + ", due is " + want);
+            System.out.println(sentence + call + " answered " + got + ", due is " + want);
+        }
+    }
+
+    void same(String what, String got, String want) {
+        asked++;
+        if (!got.equals(want)) {
+            wrong++;
+            System.out.println(sentence + what + " is\n  " + got + ", due is\n  " + want);
         }
     }
 
@@ -20,7 +34,7 @@ final class Due {
         asked++;
         if (!so) {
             wrong++;
-            System.out.println("does not hold: " + what);
+            System.out.println(sentence + "does not hold: " + what);
         }
     }
 
